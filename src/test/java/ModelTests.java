@@ -753,6 +753,9 @@ public final class ModelTests {
             for (int i = 0; i < routersWanted; i++) {
                 check("router");
             }
+            if (number % 3 == 0) {
+                fewLinks();
+            }
             for (int i = 0; i < CALLS && !told; i++) {
                 step();
             }
@@ -763,6 +766,57 @@ public final class ModelTests {
                     }
                     check("known", r, d);
                 }
+            }
+        }
+
+        /** A tree with few links more, one link cut or dearer, again and again, when it is settled: where loops and counting come from. */
+        void fewLinks() {
+            int many = model.net.tables.size();
+            check("rule", 0, draw(3));
+            check("rule", 1, draw(4) / 3);
+            check("rule", 2, draw(2) * draw(10));
+            for (int r = 1; r < many; r++) {
+                check("link", r, draw(2) == 0 ? r - 1 : draw(r), 1 + draw(draw(4) == 0 ? 15 : 2));
+            }
+            for (int i = draw(3); i > 0; i--) {
+                check("link", draw(many), draw(many), 1 + draw(3));
+            }
+            for (int i = 0; i < 4; i++) {
+                check("rounds", 3 + draw(15));
+                int link = draw(model.net.links.size());
+                int dearer = draw(3);
+                if (dearer > 0) {
+                    check("cost", link, 5 + draw(11));
+                } else {
+                    check("turn", link, 0);
+                }
+                check("told", 4);
+                lookAtWays(many);
+                check("rounds", 1 + draw(3));
+                lookAtWays(many);
+                if (dearer > 0) {
+                    check("cost", link, 1 + draw(3));
+                } else {
+                    check("turn", link, draw(2));
+                }
+            }
+        }
+
+        void lookAtWays(int many) {
+            check("told", 1);
+            check("told", 2);
+            check("told", 0);
+            check("tried", draw(3));
+            for (int i = 0; i < 4; i++) {
+                int a = draw(many);
+                int d = draw(many);
+                check("ends", a, d);
+                check("way", a, d, -1);
+                check("way", a, d, draw(many));
+                check("counts", a, d);
+                check("packet", a, d, 1 + draw(40), 0);
+                check("packet", a, d, 1 + draw(40), 1);
+                check("then", a, d, draw(12), draw(3));
             }
         }
 
