@@ -906,7 +906,7 @@ public final class VectorRounds {
         final int[] bytes = new int[TAPE_BYTES];
         int length;
         final int[] letters = new int[MOST_LINES];
-        /** Three places a line; a line with fewer numbers leaves the rest 0. */
+        /** Three places a line; one with fewer numbers does not use the rest. */
         final int[] numbers = new int[3 * MOST_LINES];
         int lines;
         private int at;
@@ -921,7 +921,6 @@ public final class VectorRounds {
         int readLines() {
             lines = 0;
             at = 0;
-            Arrays.fill(numbers, 0);
             for (int i = 0; i < MOST_LINES; i++) {
                 if (!readLine()) {
                     return at;

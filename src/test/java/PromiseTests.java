@@ -758,6 +758,17 @@ public final class PromiseTests {
         VectorRounds z = dearer();
         due("horizon", z.tried(0), 0);
         due("sequenced", z.tried(1), 1);
+        VectorRounds p = alone(4);
+        p.link(1, 3, 2);
+        p.link(2, 3, 2);
+        p.link(0, 2, 4);
+        p.rounds(6);
+        p.cost(1, 10);
+        p.rounds(3);
+        // 3 lost 0 by way of 1, whose own way goes over 3: poison tells 1 so at once, a split horizon does not.
+        due("horizon", p.tried(0), 2);
+        due("sequenced", p.tried(1), 0);
+        due("settled", p.tried(2), 1);
         due("tried", x.tried(-1), BAD);
         due("tried", x.tried(3), BAD);
         due("tried", x.tried(LOW), BAD);
@@ -1064,6 +1075,12 @@ public final class PromiseTests {
                 due("tells(" + holder + ", " + as + ")", x.tells(holder, as), want[holder][as]);
             }
         }
+        VectorRounds far = line(2);
+        far.cost(0, 15);
+        far.rounds(1);
+        far.hold(0, 0, 1);
+        due("15 is a reach", far.tells(0, 2), 1);
+        due("15 is not lost", far.tells(0, 3), -12);
         due("nothing", x.tells(3, 0), -11);
         x.row(3, 2);
         for (int as = 0; as < 4; as++) {
