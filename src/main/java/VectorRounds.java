@@ -64,7 +64,7 @@ public final class VectorRounds {
         if (noLink(link) || up < 0 || up > 1) {
             return BAD;
         }
-        if (now.links.isUp[link] == (up == 1)) {
+        if (now.links.up[link] == up) {
             return STATE;
         }
         now.switchLink(link);
@@ -106,7 +106,7 @@ public final class VectorRounds {
             case 0: return now.links.lesser[link];
             case 1: return now.links.greater[link];
             case 2: return now.links.price[link];
-            case 3: return now.links.isUp[link] ? 1 : 0;
+            case 3: return now.links.up[link];
             default: return BAD;
         }
     }
@@ -123,7 +123,11 @@ public final class VectorRounds {
         if (n < 1 || n > MOST_ROUNDS) {
             return BAD;
         }
-        return now.goRounds(n);
+        int changed = 0;
+        for (int i = 0; i < n; i++) {
+            changed += now.goRound();
+        }
+        return changed;
     }
 
     // ---- tables
@@ -175,7 +179,9 @@ public final class VectorRounds {
             return BAD;
         }
         thought.become(now);
-        thought.goRounds(n);
+        for (int i = 0; i < n; i++) {
+            thought.goRound();
+        }
         if (what == 2) {
             return path.loopsIn(thought);
         }
@@ -250,7 +256,7 @@ public final class VectorRounds {
         }
         int bestHorizon = 0;
         int bestSequenced = 0;
-        int best = Integer.MAX_VALUE;
+        int best = MOST_ROUNDS + 2;
         for (int h = 0; h <= MOST_HORIZON; h++) {
             for (int q = 0; q <= 1; q++) {
                 thought.become(now);
@@ -485,7 +491,7 @@ public final class VectorRounds {
         int worst = NOT;
         int most = -1;
         for (int link = 0; link < now.links.size; link++) {
-            if (now.links.isUp[link]) {
+            if (now.links.up[link] == 1) {
                 thought.become(now);
                 thought.switchLink(link);
                 int n = thought.roundsToSettle();
@@ -501,7 +507,7 @@ public final class VectorRounds {
     private int neededLinks() {
         int needed = 0;
         for (int link = 0; link < now.links.size; link++) {
-            if (now.links.isUp[link]) {
+            if (now.links.up[link] == 1) {
                 // Whoever needs the link goes over it, so its own ends part when it is missing.
                 least.measure(now, now.links.lesser[link], link);
                 if (least.to[now.links.greater[link]] == Distances.FAR) {
@@ -641,7 +647,8 @@ public final class VectorRounds {
         final int[] lesser = new int[LINKS];
         final int[] greater = new int[LINKS];
         final int[] price = new int[LINKS];
-        final boolean[] isUp = new boolean[LINKS];
+        /** 1: up, 0: cut. */
+        final int[] up = new int[LINKS];
         /** Cell a * ROUTERS + b: 1 more than the number of their link, or 0. */
         final int[] joint = new int[CELLS];
         int size;
@@ -650,7 +657,7 @@ public final class VectorRounds {
             System.arraycopy(other.lesser, 0, lesser, 0, LINKS);
             System.arraycopy(other.greater, 0, greater, 0, LINKS);
             System.arraycopy(other.price, 0, price, 0, LINKS);
-            System.arraycopy(other.isUp, 0, isUp, 0, LINKS);
+            System.arraycopy(other.up, 0, up, 0, LINKS);
             System.arraycopy(other.joint, 0, joint, 0, CELLS);
             size = other.size;
         }
@@ -664,7 +671,7 @@ public final class VectorRounds {
             lesser[link] = Math.min(a, b);
             greater[link] = Math.max(a, b);
             price[link] = sum;
-            isUp[link] = true;
+            up[link] = 1;
             size++;
             joint[a * ROUTERS + b] = size;
             joint[b * ROUTERS + a] = size;
@@ -674,9 +681,7 @@ public final class VectorRounds {
         int howManyUp() {
             int n = 0;
             for (int link = 0; link < size; link++) {
-                if (isUp[link]) {
-                    n++;
-                }
+                n += up[link];
             }
             return n;
         }
@@ -715,8 +720,8 @@ public final class VectorRounds {
 
         /** A link that is up is cut, one that is cut is up again. */
         void switchLink(int link) {
-            links.isUp[link] = !links.isUp[link];
-            if (!links.isUp[link]) {
+            links.up[link] = 1 - links.up[link];
+            if (links.up[link] == 0) {
                 loseVia(links.lesser[link], links.greater[link]);
                 loseVia(links.greater[link], links.lesser[link]);
             }
@@ -732,15 +737,6 @@ public final class VectorRounds {
             }
         }
 
-        /** As many rounds: how many entries changed in each, all together. */
-        int goRounds(int n) {
-            int sum = 0;
-            for (int i = 0; i < n; i++) {
-                sum += goRound();
-            }
-            return sum;
-        }
-
         /** One round: how many entries are otherwise behind it. */
         int goRound() {
             round++;
@@ -751,7 +747,7 @@ public final class VectorRounds {
             for (int s = 0; s < routers; s++) {
                 for (int r = 0; r < routers; r++) {
                     int link = links.joining(s, r);
-                    if (link >= 0 && links.isUp[link]) {
+                    if (link >= 0 && links.up[link] == 1) {
                         tell(s, r, links.price[link]);
                     }
                 }
@@ -876,7 +872,7 @@ public final class VectorRounds {
             for (int pass = 0; pass < ROUTERS && shorter; pass++) {
                 shorter = false;
                 for (int link = 0; link < network.links.size; link++) {
-                    if (link != without && network.links.isUp[link] && relax(network.links, link)) {
+                    if (link != without && network.links.up[link] == 1 && relax(network.links, link)) {
                         shorter = true;
                     }
                 }
