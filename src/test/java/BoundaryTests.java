@@ -235,6 +235,9 @@ public final class BoundaryTests {
             "rounds 1; told 0 = 0; then 1 0 8 0 = 16; then 1 0 9 0 = 6");
         sentence("LOOPED behind 0 ROUNDS", LOOP, "told 1 = 0; told 2 = 2");
         sentence("LOOPED behind 1 ROUND", LINE3, "rounds 3; cost 0 10; told 1 = 1; told 2 = 0; then 0 0 1 2 = 2");
+        // 2 keeps its way by 1, who lost 0 without a SEQUENCE more, and is held no more behind 9 ROUNDS.
+        sentence("LOOPED behind 10 ROUNDS", LINE3, "rounds 3; rule 2 9; turn 0 0; rule 1 1; told 1 = 10; then 0 0 9 2 = 0; then 0 0 10 2 = 2; told 0 = 0");
+        sentence("LOOPS of ROUTER 0, too", "3 x router; link 0 1 1; link 0 2 1; rounds 3; cost 0 10; rounds 1; turn 0 0; told 2 = 2; told 1 = 0; ends 0 1 = 2; ends 2 1 = 2");
         sentence("LOOPED: NOT", LINE3, "told 1 = -2; rounds 80; told 1 = -2");
         sentence("LOOPED: NOT, though there was one", LOOP, "rounds 20; told 1 = -2; told 2 = 0");
         sentence("LOOPS: twos of one ROUTER have none", LINE3, "rounds 2; told 2 = 0; ends 0 0 = 1; ends 2 2 = 1");
@@ -435,6 +438,8 @@ public final class BoundaryTests {
                 "script = " + due + "; count 0 = " + (place[i] < 0 ? 1 : 0) + "; count 4 = 0; count 7 = 0");
         }
         sentence("23: a FAULT of form is looked for ahead of all LINES", fed("r 0;x"), "script = -1004", fed("c 0;n;l 0 1"), "script = -1011; count 0 = 0");
+        sentence("23: what THE TAPE had ahead of it is no part of a TEXT", fed("n;n;l 0 1 5;r 10"), "script = 4", fed("l"), "script = -1001", fed("n;n;l 0 1"), "script = -1009",
+            fed("n;n;l 0 1 5;r 1"), "script = -2002; count 4 = 10", fed("r 10;r 10"), "script = 2", fed("r 1"), "script = 1; count 4 = 31", fed("w"), "script = -1001", fed("w 0"), "script = -1003");
         sentence("23: 1 or 2 digits", fed("n;n;l 00 01 05;w 0 08;c 00;u 00;h 02;q 01;d 09;r 01"), "script = 10; of 0 2 = 8; rule 0 0 = 2; rule 1 0 = 1; rule 2 0 = 9; count 4 = 1");
         sentence("23: each of the letters", fed("n;n;l 0 1 5;c 0"), "script = 4; of 0 3 = 0", fed("u 0;w 0 15;h 1"), "script = 3; of 0 3 = 1; of 0 2 = 15",
             fed("q 1;d 7;r 80"), "script = 3; rule 0 0 = 1; rule 1 0 = 1; rule 2 0 = 7; count 4 = 80");
