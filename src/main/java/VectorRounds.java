@@ -602,13 +602,18 @@ public final class VectorRounds {
         }
 
         void enter(int r, int d, int x, int s, int q) {
+            // A table never has more entries than there are routers; the place is looked at all the same.
+            int place = size[r];
+            if (place >= ROUTERS) {
+                return;
+            }
             int cell = r * ROUTERS + d;
             metric[cell] = x;
             via[cell] = s;
             sequence[cell] = q;
             held[cell] = 0;
-            order[r * ROUTERS + size[r]] = d;
-            size[r]++;
+            order[r * ROUTERS + place] = d;
+            size[r] = place + 1;
         }
 
         int placeOf(int r, int d) {

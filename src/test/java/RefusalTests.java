@@ -147,26 +147,40 @@ public final class RefusalTests {
     }
 
     private static void refusals() {
-        changeNothing(EMPTY, 0, 0, "link 0 1 1 = -1", "turn 0 0 = -1", "cost 0 1 = -1", "rule 3 0 = -1", "rule 0 3 = -1", "of 0 0 = -1", "between 0 0 = -1",
-            "rounds 0 = -1", "rounds 81 = -1", "entry 0 0 0 = -1", "known 0 0 = -1", "told 6 = -1", "then 0 0 0 0 = -1", "way 0 0 0 = -1", "ends 0 0 = -1",
-            "shortest 0 0 = -1", "counts 0 0 = -1", "packet 0 0 1 0 = -1", "tried 3 = -1", "judge 0 0 = -1", "drawn 1 0 = -1", "drawn 1 12 = -5",
-            "feed -1 = -1", "feed 256 = -1", "script = -1000", "back = -5", "hold 0 0 0 = -1", "row 6 0 = -1", "row 0 61 = -1", "row 0 -2 = -14",
+        changeNothing(EMPTY, 0, 0, "link 0 1 1 = -1", "turn 0 0 = -1", "cost 0 1 = -1", "rule 3 0 = -1", "rule 0 3 = -1", "of 0 0 = -1",
+            "between 0 0 = -1",
+            "rounds 0 = -1", "rounds 81 = -1", "entry 0 0 0 = -1", "known 0 0 = -1", "told 6 = -1", "then 0 0 0 0 = -1",
+            "way 0 0 0 = -1", "ends 0 0 = -1",
+            "shortest 0 0 = -1", "counts 0 0 = -1", "packet 0 0 1 0 = -1", "tried 3 = -1", "judge 0 0 = -1", "drawn 1 0 = -1",
+            "drawn 1 12 = -5",
+            "feed -1 = -1", "feed 256 = -1", "script = -1000", "back = -5", "hold 0 0 0 = -1", "row 6 0 = -1", "row 0 61 = -1",
+            "row 0 -2 = -14",
             "put 0 0 1 = -2000000000", "tells 0 0 = -11", "tells 6 0 = -1", "count 9 = -1");
-        changeNothing(SOME, 4, 3, "link 0 4 1 = -1", "link -1 0 1 = -1", "link 0 0 1 = -1", "link 0 2 0 = -1", "link 0 2 16 = -1", "link 1 0 5 = -5", "link 2 3 5 = -5",
-            "turn 3 0 = -1", "turn -1 1 = -1", "turn 0 2 = -1", "turn 2 -1 = -1", "turn 0 1 = -5", "turn 2 0 = -5", "cost 3 1 = -1", "cost 0 0 = -1", "cost 0 16 = -1", "cost -1 4 = -1",
-            "rule 0 3 = -1", "rule 1 2 = -1", "rule 2 10 = -1", "rule 0 -1 = -1", "rule 1 -1 = -1", "rule 2 -1 = -1", "rule -1 0 = -1", "rule 3 0 = -1",
-            "of 3 0 = -1", "of 0 4 = -1", "between 0 4 = -1", "between 0 2 = -2", "rounds 0 = -1", "rounds -1 = -1", "rounds 81 = -1", "rounds HIGH = -1",
-            "entry 0 4 0 = -1", "entry 0 1 5 = -1", "known 0 -1 = -1", "known 0 4 = -2", "told 6 = -1", "then 0 0 81 0 = -1", "then 0 0 0 3 = -1", "way 0 1 -2 = -1", "way 0 1 9 = -2",
-            "ends 4 0 = -1", "shortest 0 4 = -1", "shortest 0 3 = -2", "counts 4 0 = -1", "counts 1 1 = -2", "packet 0 1 0 0 = -1", "packet 0 1 41 0 = -1", "packet 0 1 1 2 = -1", "tried 3 = -1",
+        changeNothing(SOME, 4, 3, "link 0 4 1 = -1", "link -1 0 1 = -1", "link 0 0 1 = -1", "link 0 2 0 = -1", "link 0 2 16 = -1",
+            "link 1 0 5 = -5", "link 2 3 5 = -5",
+            "turn 3 0 = -1", "turn -1 1 = -1", "turn 0 2 = -1", "turn 2 -1 = -1", "turn 0 1 = -5", "turn 2 0 = -5", "cost 3 1 = -1",
+            "cost 0 0 = -1", "cost 0 16 = -1", "cost -1 4 = -1",
+            "rule 0 3 = -1", "rule 1 2 = -1", "rule 2 10 = -1", "rule 0 -1 = -1", "rule 1 -1 = -1", "rule 2 -1 = -1", "rule -1 0 = -1",
+            "rule 3 0 = -1",
+            "of 3 0 = -1", "of 0 4 = -1", "between 0 4 = -1", "between 0 2 = -2", "rounds 0 = -1", "rounds -1 = -1", "rounds 81 = -1",
+            "rounds HIGH = -1",
+            "entry 0 4 0 = -1", "entry 0 1 5 = -1", "known 0 -1 = -1", "known 0 4 = -2", "told 6 = -1", "then 0 0 81 0 = -1",
+            "then 0 0 0 3 = -1", "way 0 1 -2 = -1", "way 0 1 9 = -2",
+            "ends 4 0 = -1", "shortest 0 4 = -1", "shortest 0 3 = -2", "counts 4 0 = -1", "counts 1 1 = -2", "packet 0 1 0 0 = -1",
+            "packet 0 1 41 0 = -1", "packet 0 1 1 2 = -1", "tried 3 = -1",
             "judge 5 0 = -11", "judge 0 0 = -12", "judge 3 4 = -1", "drawn 1 0 = -1", "drawn 1 13 = -1", "feed -1 = -1", "feed 256 = -1",
-            "hold 0 0 4 = -1", "hold 6 0 0 = -1", "hold 3 4 0 = -1", "row 6 0 = -1", "row 3 61 = -1", "row 3 -2 = -14", "row 0 -2 = -14", "row 0 61 = -1", "row 0 LOW = -14", "row 3 HIGH = -1",
-            "put 3 8 1 = -2000000000", "put 3 -1 1 = -2000000000", "put 4 0 1 = -2000000000", "put 0 0 1 = -2000000000", "put 5 0 1 = -2000000000", "put 6 0 1 = -2000000000",
+            "hold 0 0 4 = -1", "hold 6 0 0 = -1", "hold 3 4 0 = -1", "row 6 0 = -1", "row 3 61 = -1", "row 3 -2 = -14", "row 0 -2 = -14",
+            "row 0 61 = -1", "row 0 LOW = -14", "row 3 HIGH = -1",
+            "put 3 8 1 = -2000000000", "put 3 -1 1 = -2000000000", "put 4 0 1 = -2000000000", "put 0 0 1 = -2000000000",
+            "put 5 0 1 = -2000000000", "put 6 0 1 = -2000000000",
             "tells 0 2 = -12", "tells 3 0 = -12", "tells 5 0 = -11", "tells 0 4 = -1", "count 9 = -1", "count -1 = -1");
         changeNothing(SOME + "router\n", 5, 3, "hold 0 0 4 = -2", "hold 3 4 1 = -2", "hold 5 0 4 = -2", "entry 0 4 0 = -2");
         changeNothing(SOME + "row 3 9\n", 4, 3, "judge 3 0 = -13");
         changeNothing(SOME + "row 3 10\n", 4, 3, "judge 3 0 = -13");
-        changeNothing(FULL, 10, 24, "router = -3", "link 3 4 1 = -3", "link 0 1 1 = -5", "link 3 4 0 = -1", "feed 110 = -3", "feed 256 = -1", "drawn 1 13 = -1", "back = -5",
-            "judge 0 0 = -13", "row 0 61 = -1", "row 0 -2 = -14", "put 0 60 3 = -2000000000", "turn 5 0 = -5", "turn 24 1 = -1", "cost 24 1 = -1", "rounds 81 = -1", "hold 6 0 0 = -1");
+        changeNothing(FULL, 10, 24, "router = -3", "link 3 4 1 = -3", "link 0 1 1 = -5", "link 3 4 0 = -1", "feed 110 = -3",
+            "feed 256 = -1", "drawn 1 13 = -1", "back = -5",
+            "judge 0 0 = -13", "row 0 61 = -1", "row 0 -2 = -14", "put 0 60 3 = -2000000000", "turn 5 0 = -5", "turn 24 1 = -1",
+            "cost 24 1 = -1", "rounds 81 = -1", "hold 6 0 0 = -1");
         refusedTexts();
     }
 
@@ -185,7 +199,8 @@ public final class RefusalTests {
             calls.add("tape " + text.getKey() + "\nscript = " + text.getValue());
         }
         changeNothing(start, 5, 4, calls.toArray(new String[0]));
-        changeNothing("", 0, 0, "tape n;n;l 0 1 1;r 9;c 1\nscript = -2004", "tape n;n;l 0 1 1;r 9;c\nscript = -1017", "tape n;n;n;n;n;n;n;n;n;n;n\nscript = -2010");
+        changeNothing("", 0, 0, "tape n;n;l 0 1 1;r 9;c 1\nscript = -2004", "tape n;n;l 0 1 1;r 9;c\nscript = -1017",
+            "tape n;n;n;n;n;n;n;n;n;n;n\nscript = -2010");
     }
 
     private static void thoughts() {
@@ -198,8 +213,10 @@ public final class RefusalTests {
             calls.add("then 0 2 80 " + what);
             calls.add("then 1 3 1 " + what);
         }
-        calls.addAll(List.of("way 0 2 -1", "way 0 2 1", "ends 0 2", "ends 1 3", "shortest 0 2", "counts 0 2", "counts 1 3", "packet 0 2 40 0", "packet 0 3 40 1",
-            "judge 3 0", "judge 4 1", "entry 0 2 4", "known 0 1", "of 0 2", "between 0 1", "tells 0 1", "tells 1 2", "tells 2 3", "count 5", "count 6"));
+        calls.addAll(List.of("way 0 2 -1", "way 0 2 1", "ends 0 2", "ends 1 3", "shortest 0 2", "counts 0 2", "counts 1 3",
+            "packet 0 2 40 0", "packet 0 3 40 1",
+            "judge 3 0", "judge 4 1", "entry 0 2 4", "known 0 1", "of 0 2", "between 0 1", "tells 0 1", "tells 1 2", "tells 2 3",
+            "count 5", "count 6"));
         String[] all = calls.toArray(new String[0]);
         changeNothing(SOME, 4, 3, all);
         changeNothing(SOME + "turn 2 1; rule 0 2; cost 0 9; rounds 1; turn 0 0\n", 4, 3, all);
@@ -210,10 +227,14 @@ public final class RefusalTests {
 
     /** The bounds of each call's arguments: R a router, L a link, H a holder. */
     private static final String[][] BOUNDS = {
-        {"link", "R", "R", "1 15"}, {"turn", "L", "0 1"}, {"cost", "L", "1 15"}, {"rule", "0 2", "0 9"}, {"of", "L", "0 3"}, {"between", "R", "R"},
-        {"rounds", "1 80"}, {"entry", "R", "R", "0 4"}, {"known", "R", "0 HIGH"}, {"told", "0 5"}, {"then", "R", "R", "0 80", "0 2"}, {"way", "R", "R", "-1 HIGH"},
-        {"ends", "R", "R"}, {"shortest", "R", "R"}, {"counts", "R", "R"}, {"packet", "R", "R", "1 40", "0 1"}, {"tried", "0 2"}, {"judge", "H", "R"},
-        {"drawn", "LOW HIGH", "1 12"}, {"feed", "0 255"}, {"hold", "H", "R", "R"}, {"row", "H", "LOW 60"}, {"put", "H", "0 7", "LOW HIGH"}, {"tells", "H", "0 3"}, {"count", "0 8"}};
+        {"link", "R", "R", "1 15"}, {"turn", "L", "0 1"}, {"cost", "L", "1 15"}, {"rule", "0 2", "0 9"}, {"of", "L", "0 3"},
+        {"between", "R", "R"},
+        {"rounds", "1 80"}, {"entry", "R", "R", "0 4"}, {"known", "R", "0 HIGH"}, {"told", "0 5"}, {"then", "R", "R", "0 80", "0 2"},
+        {"way", "R", "R", "-1 HIGH"},
+        {"ends", "R", "R"}, {"shortest", "R", "R"}, {"counts", "R", "R"}, {"packet", "R", "R", "1 40", "0 1"}, {"tried", "0 2"},
+        {"judge", "H", "R"},
+        {"drawn", "LOW HIGH", "1 12"}, {"feed", "0 255"}, {"hold", "H", "R", "R"}, {"row", "H", "LOW 60"},
+        {"put", "H", "0 7", "LOW HIGH"}, {"tells", "H", "0 3"}, {"count", "0 8"}};
 
     private static void bounds() {
         for (String[] call : BOUNDS) {
