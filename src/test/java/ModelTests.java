@@ -7,7 +7,9 @@ import java.util.regex.Pattern;
 
 /** Long runs of drawn calls: the program against a second one, written from the document in another manner. */
 public final class ModelTests {
-    private static final int RUNS = 700, CALLS = 400;
+    /** An object is promised for so many calls; the last of them look at its tables. */
+    private static final int MOST_CALLS = 512, LOOKS = 90;
+    private static final int RUNS = 1800;
     private static int wrong = 0;
 
     public static void main(String[] args) {
@@ -718,6 +720,7 @@ public final class ModelTests {
         final StringBuilder calls = new StringBuilder();
         long seed;
         int routersWanted;
+        int made;
         boolean told;
 
         Run(int number) {
@@ -756,15 +759,22 @@ public final class ModelTests {
             if (number % 3 == 0) {
                 fewLinks();
             }
-            for (int i = 0; i < CALLS && !told; i++) {
+            while (made < MOST_CALLS - LOOKS && !told) {
                 step();
             }
-            for (int r = 0; r < model.net.tables.size() && !told; r++) {
-                for (int d = 0; d < model.net.tables.size(); d++) {
-                    for (int what = 0; what < 5; what++) {
-                        check("entry", r, d, what);
-                    }
-                    check("known", r, d);
+            lookAtTables();
+        }
+
+        /** A part of the tables, another one in each run. */
+        void lookAtTables() {
+            int many = model.net.tables.size();
+            int first = draw(many * many);
+            for (int i = 0; made < MOST_CALLS && !told; i++) {
+                int cell = (first + i / 6) % (many * many);
+                if (i % 6 == 5) {
+                    check("known", cell / many, cell % many);
+                } else {
+                    check("entry", cell / many, cell % many, i % 6);
                 }
             }
         }
@@ -919,9 +929,10 @@ public final class ModelTests {
         }
 
         void check(String name, int... x) {
-            if (told) {
+            if (told || made >= MOST_CALLS) {
                 return;
             }
+            made++;
             calls.append(name).append(java.util.Arrays.toString(x)).append(' ');
             int want = model.call(name, x);
             int got = call(name, x);
