@@ -165,6 +165,10 @@ public final class BoundaryTests {
         sentence("x is 16 at most, of 16 and more", LINE3, "rule 0 2; rounds 2; turn 1 0; cost 0 15; rounds 3; entry 0 2 0 = 16; entry 1 2 0 = 16");
         sentence("d is r: nothing", LINE2, "rule 1 1; rounds 1; turn 0 0; turn 0 1; entry 1 0 2 = 3; rounds 1; entry 0 0 0 = 0",
             "entry 0 0 1 = 0; entry 0 0 2 = 4");
+        // Each CUT between ROUNDS without SEQUENCES leaves the other one a SEQUENCE 1 more, till it is above the ROUTER's own.
+        String above = LINE2 + "rule 1 1; rounds 1\n" + "turn 0 0; rule 1 0; turn 0 1; rounds 1; rule 1 1\n".repeat(3);
+        sentence("d is r: nothing, though q is above its own SEQUENCE", above, "entry 1 0 0 = 1; entry 1 0 2 = 5; entry 0 0 2 = 2; rounds 1 = 0",
+            "entry 0 0 0 = 0; entry 0 0 1 = 0; entry 0 0 2 = 4; entry 1 1 0 = 0; entry 1 1 1 = 1; entry 1 1 2 = 4; count 3 = 4");
         sentence("no ENTRY of d yet: if x is below 16 (15)", "3 x router; link 0 1 8; link 1 2 7; rounds 2 = 6; entry 0 2 0 = 15; entry 2 0 0 = 15");
         sentence("no ENTRY of d yet: if x is below 16 (16)", "3 x router; link 0 1 8; link 1 2 8; rounds 80 = 4; entry 0 2 0 = -2",
             "known 0 2 = -2; count 3 = 7");

@@ -758,6 +758,8 @@ public final class ModelTests {
             }
             if (number % 3 == 0) {
                 fewLinks();
+            } else if (number % 5 == 0) {
+                highSequences();
             }
             while (made < MOST_CALLS - LOOKS && !told) {
                 step();
@@ -809,6 +811,36 @@ public final class ModelTests {
                 } else {
                     check("turn", link, draw(2));
                 }
+            }
+        }
+
+        /** Cuts with sequences, between rounds without: entries whose sequences are above what their routers have of themselves. */
+        void highSequences() {
+            int many = model.net.tables.size();
+            for (int r = 1; r < many; r++) {
+                check("link", r, draw(r), 1 + draw(4));
+                check("link", draw(many), draw(many), 1 + draw(15));
+            }
+            check("rounds", 1 + draw(9));
+            for (int i = 3 + draw(20); i > 0; i--) {
+                int link = draw(1 + draw(model.net.links.size()));
+                check("rule", 1, 1);
+                check("turn", link, 0);
+                check("rule", 1, 0);
+                check("turn", link, 1);
+                check("rounds", 1 + draw(draw(2) == 0 ? 5 : 2));
+            }
+            for (int i = draw(4); i > 0; i--) {
+                check("cost", draw(model.net.links.size()), 1 + draw(15));
+            }
+            check("rule", 0, draw(3));
+            check("rule", 1, 1);
+            check("rule", 2, draw(10));
+            for (int i = 0; i < 3; i++) {
+                lookAtWays(many);
+                check("told", 3);
+                check("rounds", 1 + draw(6));
+                check("turn", draw(model.net.links.size()), draw(2));
             }
         }
 
